@@ -85,7 +85,7 @@ public final class MemoryBank {
 
     /** Subtracts where a sum of start and count could wrap around and seem small. */
     private static boolean isPart(int start, int count, int length) {
-        return start >= 0 && start <= length && count >= 0 && count <= length - start;
+        return start >= 0 && count >= 0 && count <= length - start;
     }
 
     private boolean hasRoom(int n) {

@@ -5,8 +5,9 @@ import java.util.Random;
 
 /** Long runs of chosen calls, beside a plain model that is written from the document in other terms. */
 public final class ModelTest {
-    private static final int RUNS = 300;
-    private static final int CALLS = 512;
+    private static final int RUNS = 1000;
+    /** What is left of the document's 512 calls is for the look at the state. */
+    private static final int CALLS = 440;
     private static final int[] EDGES = {
         Integer.MIN_VALUE, Integer.MIN_VALUE + 1, -4096, -2, -1, 0, 1, 2, 255, 256, 509, 510, 511, 512, 513,
         3584, 4094, 4095, 4096, 4097, 65536, Integer.MAX_VALUE - 4095, Integer.MAX_VALUE - 1, Integer.MAX_VALUE
@@ -54,13 +55,11 @@ public final class ModelTest {
     }
 
     private void compareState(String where) {
-        for (int k = 0; k < 4096; k++) {
-            due.is(where + "at(" + k + ")", bank.at(k), memory[k]);
-        }
-        for (int k = 0; k < row.size(); k++) {
-            due.is(where + "rowAt(" + k + ")", bank.rowAt(k), row.get(k));
+        for (int place = 0; place < 4096; place += 64) {
+            due.is(where + "check(" + place + ", 64)", bank.check(place, 64), check(place, 64));
         }
         due.is(where + "size()", bank.size(), row.size());
+        due.is(where + "rowCheck(" + row.size() + ")", bank.rowCheck(row.size()), checkOfRow(row.size()));
     }
 
     /** Near the row's own size as often as at the document's edges: there the calls turn from true to false. */
