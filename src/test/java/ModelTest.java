@@ -15,7 +15,7 @@ public final class ModelTest {
 
     private final Due due;
     private final Random random;
-    private final MemoryBank bank = new MemoryBank();
+    private final Bank bank = new Bank();
     private final int[] memory = new int[4096];
     private final List<Integer> row = new ArrayList<>();
 
