@@ -40,6 +40,8 @@ public final class FaceTest {
         due.is("the face", face, wanted);
         int modifiers = MemoryBank.class.getModifiers();
         due.is("the class's modifiers", Modifier.toString(modifiers), "public final");
+        due.is("the class above it", MemoryBank.class.getSuperclass(), Object.class);
+        due.is("how many interfaces it has", MemoryBank.class.getInterfaces().length, 0);
         due.end();
     }
 }

@@ -6,8 +6,8 @@ import java.util.Random;
 /** Long runs of chosen calls, beside a plain model that is written from the document in other terms. */
 public final class ModelTest {
     private static final int RUNS = 1000;
-    /** What is left of the document's 512 calls is for the look at the state. */
-    private static final int CALLS = 440;
+    /** The other 66 of the document's 512 calls are for the look at the state. */
+    private static final int CALLS = 446;
     private static final int[] EDGES = {
         Integer.MIN_VALUE, Integer.MIN_VALUE + 1, -4096, -2, -1, 0, 1, 2, 255, 256, 509, 510, 511, 512, 513,
         3584, 4094, 4095, 4096, 4097, 65536, Integer.MAX_VALUE - 4095, Integer.MAX_VALUE - 1, Integer.MAX_VALUE
